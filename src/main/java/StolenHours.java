@@ -1806,7 +1806,7 @@ public final class StolenHours {
             findRuns(street, mask);
             size = NONE;
             for (int tried = 0; tried <= MOST && size == NONE; tried++) {
-                if (pick(0, tried, NONE)) {
+                if (pick(this, 0, tried, NONE)) {
                     size = tried;
                 }
             }
@@ -1837,9 +1837,9 @@ public final class StolenHours {
             }
         }
 
-        /** Picks the rest of a rising row of as many as size tells; the first row found is the least. */
-        private boolean pick(int depth, int tried, int latest) {
-            int last = firstUncovered(latest);
+        /** Picks the rest, from depth on, of a rising row of as many as are tried; the first row found is the least. */
+        private static boolean pick(Cover cover, int depth, int tried, int latest) {
+            int last = cover.firstUncovered(latest);
             if (last == NONE) {
                 return depth == tried;
             }
@@ -1848,9 +1848,9 @@ public final class StolenHours {
             }
             // Of the fewest the next one is always in the run that ends first:
             // one before it could be left out, one behind it leaves it uncovered.
-            for (int m = last - shortest[last] + 1; m <= last; m++) {
-                row[depth] = m;
-                if (pick(depth + 1, tried, m)) {
+            for (int m = last - cover.shortest[last] + 1; m <= last; m++) {
+                cover.row[depth] = m;
+                if (pick(cover, depth + 1, tried, m)) {
                     return true;
                 }
             }
