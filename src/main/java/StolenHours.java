@@ -998,18 +998,6 @@ public final class StolenHours {
 
         /** The first kind of line of each sort; the next sort's is behind its last one. */
         private static final int[] FIRST_KIND = {0, 6, 13, 15, 17};
-        private static final int[] NUMBERS = {1, 1, 2, 3, 3, 4, 2, 2, 2, 2, 3, 1, 1, 1, 1, 1, 3};
-        /** Four to a kind, as for MOST. */
-        private static final int[] LEAST = {
-            1, 0, 0, 0, 1, 0, 0, 0, 0, 0, 0, 0, 0, 0, 0, 0, 0, 0, 0, 0, 1, 0, 0, 0,
-            0, 0, 0, 0, 0, 0, 0, 0, 0, 0, 0, 0, 0, 0, 0, 0, 0, 0, 0, 0, 0, 0, 0, 0, 0, 0, 0, 0,
-            0, 0, 0, 0, 0, 0, 0, 0,
-            2, 0, 0, 0, 0, 0, 0, 0};
-        private static final int[] MOST = {
-            40, 0, 0, 0, 4, 0, 0, 0, 3, 99, 0, 0, 39, 39, 9, 0, 3, 39, 39, 0, 9, 39, 39, 99,
-            3, 39, 0, 0, 3, 39, 0, 0, 3, 39, 0, 0, 3, 39, 0, 0, 3, 5, 39, 0, 39, 0, 0, 0, 39, 0, 0, 0,
-            39, 0, 0, 0, 39, 0, 0, 0,
-            6, 0, 0, 0, 5, 5, 9, 0};
 
         final Tokens tokens = new Tokens();
         final Street street = new Street();
@@ -1080,12 +1068,13 @@ public final class StolenHours {
                 return stopReading();
             }
             countFurther(sort, kind);
-            for (int i = 0; i < NUMBERS[kind]; i++) {
+            String shape = shapeOf(kind);
+            for (int i = 0; i < shape.length(); i++) {
                 tokens.advance();
                 if (tokens.sort != Tokens.NUMBER) {
                     return stopReading();
                 }
-                takeNumber(kind, i);
+                takeNumber(shape.charAt(i), i);
             }
             tokens.advance();
             if (tokens.sort != Tokens.STOP) {
@@ -1167,21 +1156,85 @@ public final class StolenHours {
             return kind == BUSINESS_LINE ? BUSINESS : 0;
         }
 
-        private void takeNumber(int kind, int i) {
+        private void takeNumber(char sign, int i) {
             int value = tokens.value;
-            numbers[i] = value;
-            boolean falls = i > 0 && i == lastMinuteAt(kind) && value < numbers[i - 1];
-            if (value < LEAST[kind * 4 + i] || value > MOST[kind * 4 + i] || falls) {
+            boolean falls = sign == 't' && i > 0 && value < numbers[i - 1];
+            if (value < leastOf(sign) || value > mostOf(sign) || falls) {
                 note(BAD_NUMBER, tokens.place);
+            }
+            numbers[i] = value;
+        }
+
+        /**
+         * What numbers a line has, a sign for each: how many (M)inutes, (P)eople, (H)ands, a (L)ength, a (p)erson,
+         * a (m)inute, the one up (t)o which from the one before, (b)usiness, a (h)and, (c)oins, a price (x).
+         */
+        private static String shapeOf(int kind) {
+            switch (kind) {
+                case MINUTES_LINE:
+                    return "M";
+                case PEOPLE_LINE:
+                    return "P";
+                case COINS_LINE:
+                    return "pc";
+                case PRICE_LINE:
+                    return "mtx";
+                case HAS_LINE:
+                    return "pmt";
+                case BUSINESS_LINE:
+                    return "Lmtc";
+                case BUY:
+                case THINK:
+                case STEAL:
+                case SELL:
+                    return "pm";
+                case DO:
+                    return "pbm";
+                case HANDS_LINE:
+                    return "H";
+                case WORTH_LINE:
+                    return "hhx";
+                default:
+                    return "m";
             }
         }
 
-        /** Which number of a line is a last minute, with the first one before it; 0 where there is none. */
-        private static int lastMinuteAt(int kind) {
-            if (kind == PRICE_LINE) {
-                return 1;
+        private static int leastOf(char sign) {
+            switch (sign) {
+                case 'M':
+                case 'P':
+                case 'L':
+                    return 1;
+                case 'H':
+                    return 2;
+                default:
+                    return 0;
             }
-            return kind == HAS_LINE || kind == BUSINESS_LINE ? 2 : 0;
+        }
+
+        private static int mostOf(char sign) {
+            switch (sign) {
+                case 'M':
+                    return MINUTES;
+                case 'P':
+                    return PEOPLE;
+                case 'H':
+                    return HANDS;
+                case 'p':
+                    return PEOPLE - 1;
+                case 'm':
+                case 't':
+                    return MINUTES - 1;
+                case 'b':
+                    return BUSINESS - 1;
+                case 'h':
+                    return HANDS - 1;
+                case 'L':
+                case 'x':
+                    return 9;
+                default:
+                    return 99;
+            }
         }
 
         private void tellLine(int sort, int kind) {
@@ -1202,7 +1255,7 @@ public final class StolenHours {
         }
 
         private int numberOrNone(int kind, int i) {
-            return i < NUMBERS[kind] ? numbers[i] : NONE;
+            return i < shapeOf(kind).length() ? numbers[i] : NONE;
         }
 
         private void tellStreet(int kind) {

@@ -8,6 +8,7 @@ public final class LogTest {
     public static void main(String[] args) {
         facts();
         fitting();
+        twoLogs();
         wrongNumbers();
         Check.finish("LogTest");
     }
@@ -61,6 +62,20 @@ public final class LogTest {
         Check.due("the one of minute 1 first", x.fits(0, 50), 41);
         isLog("there 20;", new int[] {400, NONE, NONE, 9}, new int[] {1, 20, 0, 1}, 0);
         isLog("there 0;there 39;gone 20;gone 20;", new int[] {380, NONE, NONE, 10}, new int[] {1, 38, 1, 2}, 60);
+    }
+
+    /** What was asked of one log is nothing to the other. */
+    private static void twoLogs() {
+        StolenHours x = Check.with(2, "gone 5;there 4;there 6;");
+        Check.due("a second log", Check.tell(x, 2, NONE, "gone 0;there 2;"), 1);
+        for (int time = 0; time < 2; time++) {
+            Check.due("span here", x.span(1, 1), 2);
+            Check.due("span there", x.span(0, 1), 1);
+            Check.due("fits here", x.fits(1, 0), 2);
+            Check.due("fits there", x.fits(0, 0), 1);
+            Check.due("sure here", x.fits(1, 1), 0);
+            Check.due("sure there", x.fits(0, 1), 5);
+        }
     }
 
     private static void wrongNumbers() {

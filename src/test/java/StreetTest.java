@@ -26,6 +26,7 @@ public final class StreetTest {
         wanted();
         early();
         ranked();
+        twoStreets();
         nothingThere();
         Check.finish("StreetTest");
     }
@@ -122,6 +123,10 @@ public final class StreetTest {
         isErrands(far, 0, 3, 10, 2, 3);
         StolenHours six = Check.withStreet("minutes 40;price 0 39 9;" + Check.times("business 6 0 39 1;", 6));
         isErrands(six, 0, 63, 324, 0, 6, 12, 18, 24, 30);
+        isErrands(six, 0, 64, NONE);
+        isErrands(six, 0, MOST, NONE);
+        Check.due("early 64", six.early(0, 0, 64), NONE);
+        Check.due("gift 64", six.gift(0, 0, 64, true), NONE);
     }
 
     private static void isPlan(StolenHours x, int person, int bits, int much) {
@@ -385,6 +390,32 @@ public final class StreetTest {
         isRanked("coins 0 0;business 3 0 3 1;business 2 0 3 1;business 1 0 3 1;", 0, 2, 1, 0);
         isRanked("business 2 0 3 1;business 1 0 3 1;business 2 3 5 1;business 1 7 7 1;has 0 3 4;", 0, 1, 2, 0, 3);
         Check.due("ranked in street 1", Check.withStreet("").ranked(1, 0, 0), NONE);
+    }
+
+    /** What was asked of one street is nothing to the other. */
+    private static void twoStreets() {
+        StolenHours x = Check.withStreet("minutes 8;coins 0 50;has 0 0 7;business 2 0 7 9;business 1 7 7 2;");
+        Check.due("a second street", Check.tell(x, 0, NONE, "minutes 9;coins 0 1;price 0 8 3;business 2 0 8 4;"), 1);
+        for (int time = 0; time < 2; time++) {
+            Check.due("robbed there", x.robbed(0, 0, NONE), NONE);
+            Check.due("robbed here", x.robbed(1, 0, NONE), 0);
+            Check.due("corner there", x.corner(0, 0, NONE), 0);
+            Check.due("corner here", x.corner(1, 0, NONE), NONE);
+            Check.due("plan there", x.plan(0, 0, false), 3);
+            Check.due("plan here", x.plan(1, 0, false), 0);
+            Check.due("left there", x.left(0, 0), 61);
+            Check.due("left here", x.left(1, 0), 1);
+            Check.due("run there", x.run(0, 0, 1, false), 7);
+            Check.due("run here", x.run(1, 0, 1, false), NONE);
+            Check.due("errands there", x.errands(0, 0, 3, NONE), 0);
+            Check.due("errands here", x.errands(1, 0, 1, NONE), 6);
+            Check.due("gift there", x.gift(0, 1, 3, true), 2);
+            Check.due("gift here", x.gift(1, 0, 1, true), 3);
+            Check.due("early there", x.early(0, 0, 3), 7);
+            Check.due("early here", x.early(1, 0, 1), NONE);
+            Check.due("halves there", x.halves(0, false), 2);
+            Check.due("halves here", x.halves(1, false), 9);
+        }
     }
 
     private static void nothingThere() {

@@ -9,6 +9,7 @@ public final class SwapsTest {
         toldSwaps();
         ends();
         happy();
+        twoSwaps();
         wrongNumbers();
         Check.finish("SwapsTest");
     }
@@ -62,6 +63,22 @@ public final class SwapsTest {
         isHappy("hands 2;worth 0 0 9;worth 1 0 3;worth 1 1 2;", 1, 0, 1);
         isHappy("hands 3;worth 0 0 1;worth 1 0 1;worth 2 0 1;", 1, 0, 2);
         isHappy("hands 3;worth 0 1 9;worth 0 2 8;worth 1 0 9;worth 1 2 8;worth 2 0 9;worth 2 1 8;", 3, 3, 2);
+    }
+
+    /** What was asked of one swap is nothing to the other. */
+    private static void twoSwaps() {
+        StolenHours x = Check.with(3, "hands 2;worth 0 1 1;worth 1 0 2;");
+        Check.due("second swaps", Check.tell(x, 3, NONE, "hands 4;worth 3 0 7;"), 1);
+        for (int time = 0; time < 2; time++) {
+            Check.due("gain there", x.swap(0, 1), 3);
+            Check.due("gain here", x.swap(1, 1), 0);
+            Check.due("rounds there", x.swap(0, 2), 1);
+            Check.due("rounds here", x.swap(1, 2), 4);
+            Check.due("happy there", x.happy(0, 0), 3);
+            Check.due("happy here", x.happy(1, 0), 7);
+            Check.due("envy here", x.happy(1, 2), 1);
+            Check.due("envy there", x.happy(0, 2), 0);
+        }
     }
 
     private static void wrongNumbers() {

@@ -12,6 +12,7 @@ public final class TapeTest {
         takingTexts();
         textsThatAreNotRead();
         tokens();
+        cutTexts();
         faultsOfStreets();
         faultsOfOtherTexts();
         whichFaultIsTold();
@@ -109,8 +110,27 @@ public final class TapeTest {
         Check.due("new log's facts", x.fact(1, NONE, 0), 2);
         Check.due("new swaps", Check.tell(x, 3, 0, "hands 2;"), 0);
         Check.due("new swaps' hands", x.swap(0, 0), 2);
-        Check.due("no business of before", Check.tell(x, 0, 1, ""), 1);
-        Check.due("none left", x.street(1, 2), 0);
+        nothingOfBefore(x);
+    }
+
+    private static void nothingOfBefore(StolenHours x) {
+        Check.tell(x, 0, 1, "minutes 20;people 4;coins 0 3;price 0 9 7;has 1 0 9;business 1 0 0 0;");
+        Check.due("text of nothing", Check.tell(x, 0, 1, ""), 1);
+        int[] want = {0, 12, 1, 2, 2, 0, 10, 20, 105, 1, 205, NONE, 20, -2};
+        for (int i = 0; i < want.length; i += 2) {
+            Check.due("nothing of before, " + want[i], x.street(1, want[i]), want[i + 1]);
+        }
+        Check.tell(x, 1, 1, "sell 0 0;sell 0 1;");
+        Check.tell(x, 1, 1, "dearer 5;");
+        Check.due("no deed of before", x.deed(1, NONE, 0), 1);
+        Check.due("no number of before", x.deed(1, 0, 2), NONE);
+        Check.tell(x, 2, 1, "gone 0;gone 1;");
+        Check.tell(x, 2, 1, "there 7;");
+        Check.due("no fact of before", x.fact(1, NONE, 0), 1);
+        Check.tell(x, 3, 1, "hands 6;worth 0 1 9;worth 5 5 2;");
+        Check.tell(x, 3, 1, "");
+        Check.due("no hands of before", x.swap(1, 0), 3);
+        Check.due("no worth of before", x.swap(1, 101), 0);
     }
 
     private static void textsThatAreNotRead() {
@@ -168,6 +188,11 @@ public final class TapeTest {
         faulty(0, "minutes 3 123;", 1, 10);
         faulty(0, "minute 3;", 1, 0);
         faulty(0, "minutess 3;", 1, 0);
+        faulty(0, "minutesz 3;", 1, 0);
+        faulty(0, "minutesa 3;", 1, 0);
+        faulty(0, "xinutes 3;", 1, 0);
+        faulty(0, "minutex 3;", 1, 0);
+        faulty(0, "people 0people 2;", 1, 8);
         faulty(0, "Minutes 3;", 1, 0);
         faulty(0, "minutes 3people 2;", 1, 9);
         faulty(0, "minutes\t3;", 1, 7);
@@ -193,6 +218,26 @@ public final class TapeTest {
                 }
             }
         }
+    }
+
+    /** What was behind the tape's end before belongs to no token. */
+    private static void cutTexts() {
+        StolenHours x = new StolenHours();
+        String[] texts = {"minutesa", "minutes 12", "minutes 123", "minutes 3;x"};
+        int[] ends = {7, 9, 10, 10};
+        int[] places = {7, 9, 10, NONE};
+        for (int i = 0; i < texts.length; i++) {
+            Check.put(x, texts[i]);
+            x.end(ends[i]);
+            Check.due("text cut from " + texts[i], x.text(0, x.count(0) == 0 ? NONE : 0), places[i] == NONE ? 0 : NONE);
+            Check.due("place cut from " + texts[i], x.fault(1), places[i]);
+        }
+        faulty(0, Check.times(" ", 593) + "minutes", 1, 600);
+        faulty(0, Check.times(" ", 591) + "minutes 9", 1, 600);
+        faulty(0, Check.times(" ", 590) + "minutes 9;", 0, NONE);
+        faulty(0, Check.times(" ", 600), 0, NONE);
+        faulty(0, Check.times("minutes 9;", 60), 0, NONE);
+        faulty(0, Check.times("minutes 9;", 59) + "minutes 9?", 1, 599);
     }
 
     private static void faultsOfStreets() {

@@ -94,6 +94,9 @@ public final class TinTest {
             Check.due("enough " + numbers[0] + " " + numbers[1], X.enough(numbers[0], numbers[1]), numbers[2]);
         }
         for (int k = 1; k <= 9; k++) {
+            Check.due("enough " + k + " -1", X.enough(k, -1), NONE);
+            Check.due("enough " + k + " 11", X.enough(k, 11), NONE);
+            Check.due("enough " + k + " most", X.enough(k, Integer.MAX_VALUE), NONE);
             for (int p = 0; p <= 10; p++) {
                 int least = NONE;
                 for (int n = 9; n >= 0; n--) {

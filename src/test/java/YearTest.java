@@ -20,6 +20,7 @@ public final class YearTest {
         states();
         drawn();
         behindAllDeeds();
+        twoYears();
         wrongNumbers();
         Check.finish("YearTest");
     }
@@ -243,6 +244,27 @@ public final class YearTest {
         isAfter("do 1 0 0;", NONE, 1, NONE, NONE, 0);
         isAfter("dearer 0;cheaper 0;", NONE, 0, NONE, NONE, 0);
         isAfter("steal 1 0;steal 0 1;", NONE, 0, NONE, NONE, 0);
+    }
+
+    /** What was lived through in one year is nothing to the other. */
+    private static void twoYears() {
+        StolenHours x = living("think 1 0;steal 0 1;do 1 0 0;");
+        Check.due("a second year", Check.tell(x, 1, NONE, "do 1 0 0;sell 1 2;"), 1);
+        for (int time = 0; time < 2; time++) {
+            Check.due("thinker there", x.after(0, 0, 0), 1);
+            Check.due("thinker here", x.after(0, 1, 0), NONE);
+            Check.due("victim there", x.after(0, 0, 2), 1);
+            Check.due("victim here", x.after(0, 1, 2), NONE);
+            Check.due("restless there", x.after(0, 0, 3), 1);
+            Check.due("restless here", x.after(0, 1, 3), 2);
+            Check.due("till there", x.till(0, 0), 2);
+            Check.due("till here", x.till(0, 1), 2);
+            Check.due("done there", x.state(0, 0, 2, 30), NONE);
+            Check.due("done here", x.state(0, 1, 2, 30), 1);
+            Check.due("used there", x.state(0, 0, 2, 0), 1);
+            Check.due("used here", x.state(0, 1, 2, 0), 2);
+            Check.due("drawn", x.drawn(0, 1, 0, 0), 0);
+        }
     }
 
     private static void wrongNumbers() {
