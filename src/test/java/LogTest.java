@@ -67,13 +67,13 @@ public final class LogTest {
     /** What was asked of one log is nothing to the other. */
     private static void twoLogs() {
         StolenHours x = Check.with(2, "gone 5;there 4;there 6;");
-        Check.due("a second log", Check.tell(x, 2, NONE, "gone 0;there 2;"), 1);
+        Check.due("a second log", Check.tell(x, 2, NONE, "gone 3;there 7;"), 1);
         for (int time = 0; time < 2; time++) {
-            Check.due("span here", x.span(1, 1), 2);
+            Check.due("span here", x.span(1, 1), 7);
             Check.due("span there", x.span(0, 1), 1);
-            Check.due("fits here", x.fits(1, 0), 2);
+            Check.due("fits here", x.fits(1, 0), 16);
             Check.due("fits there", x.fits(0, 0), 1);
-            Check.due("sure here", x.fits(1, 1), 0);
+            Check.due("sure here", x.fits(1, 1), NONE);
             Check.due("sure there", x.fits(0, 1), 5);
         }
     }
