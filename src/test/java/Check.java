@@ -72,6 +72,53 @@ final class Check {
         return x;
     }
 
+    static void due(String call, String got, String want) {
+        due(call + " (" + got + ", not " + want + ")", got.equals(want), true);
+    }
+
+    /** The numbers around those from least to most, and some far off; none of them is one of those. */
+    static int[] outside(int least, int most) {
+        return new int[] {Integer.MIN_VALUE, Integer.MIN_VALUE + 1, least - 65536, least - 256, least - 2, least - 1,
+            most + 1, most + 2, most + 256, most + 65536, Integer.MAX_VALUE - 1, Integer.MAX_VALUE};
+    }
+
+    /** That the tape has so many bytes; it stays as it is. */
+    static void hasTape(String call, StolenHours x, int bytes) {
+        due("one byte more of the tape, " + call, x.end(bytes + 1), StolenHours.NONE);
+        due("all bytes of the tape, " + call, x.end(bytes), bytes);
+    }
+
+    /** Most of what is told, without the tape, in one text: 110 calls. */
+    static String told(StolenHours x) {
+        StringBuilder all = new StringBuilder("fault " + x.fault(0) + " " + x.fault(1));
+        for (int sort = 0; sort < 4; sort++) {
+            all.append(", ").append(x.count(sort));
+        }
+        int[] streets = {0, 1, 2, 10, 11, 12, 13, 20, 30, 40, 50, 25, 35, 45, 55, 100, 111, 139, 200, 211, 239};
+        int[] swaps = {0, 1, 2, 10, 15, 20, 25, 100, 101, 106, 135};
+        for (int one = 0; one < 2; one++) {
+            all.append("; street");
+            for (int what : streets) {
+                all.append(' ').append(x.street(one, what));
+            }
+            all.append("; year ").append(x.deed(one, StolenHours.NONE, 0));
+            for (int k : new int[] {0, 1, 39}) {
+                for (int what = 0; what < 4; what++) {
+                    all.append(' ').append(x.deed(one, k, what));
+                }
+            }
+            all.append("; log ").append(x.fact(one, StolenHours.NONE, 0));
+            for (int k : new int[] {0, 1, 7}) {
+                all.append(' ').append(x.fact(one, k, 0)).append(' ').append(x.fact(one, k, 1));
+            }
+            all.append("; swaps");
+            for (int what : swaps) {
+                all.append(' ').append(x.swap(one, what));
+            }
+        }
+        return all.toString();
+    }
+
     static String times(String part, int n) {
         StringBuilder all = new StringBuilder();
         for (int i = 0; i < n; i++) {

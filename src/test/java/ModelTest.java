@@ -210,19 +210,21 @@ public final class ModelTest {
         for (int what = -3; what < 310; what++) {
             Check.due("street(0, " + what + ") of " + text, x.street(0, what), town.told(what));
         }
-        comparePeople(x, town, text);
+        comparePeople(town, text);
+        x = Check.withStreet(text);
         int[] halves = town.halves(0, new int[40][]);
         Check.due("halves(0, false) of " + text, x.halves(0, false), halves[0]);
         Check.due("halves(0, true) of " + text, x.halves(0, true), halves[1]);
         Check.due("wanted(0, false) of " + text, x.wanted(0, false), town.wanted()[0]);
         Check.due("wanted(0, true) of " + text, x.wanted(0, true), town.wanted()[1]);
-        compareYear(x, read, text, likelyYear(text));
-        compareYear(x, read, text, yearText(minutes, town.people, town.business.size()));
-        compareDrawn(x, read, text);
+        compareYear(read, text, likelyYear(text));
+        compareYear(read, text, yearText(minutes, town.people, town.business.size()));
+        compareDrawn(read, text);
     }
 
-    private static void comparePeople(StolenHours x, Model.Town town, String text) {
+    private static void comparePeople(Model.Town town, String text) {
         for (int p = 0; p < town.people; p++) {
+            StolenHours x = Check.withStreet(text);
             String of = " of " + p + " in " + text;
             Check.due("free" + of, x.free(0, p, false), town.longest(p)[0]);
             Check.due("free first" + of, x.free(0, p, true), town.longest(p)[1]);
@@ -294,29 +296,36 @@ public final class ModelTest {
         }
     }
 
-    private static void compareYear(StolenHours x, Model.Read street, String text, String year) {
+    private static StolenHours living(String text, String year) {
+        StolenHours x = Check.withStreet(text);
+        Check.due("text(1) of " + year + " in " + text, Check.tell(x, 1, NONE, year), 0);
+        return x;
+    }
+
+    private static void compareYear(Model.Read street, String text, String year) {
         Model.Read read = Model.read(year, 1);
-        Check.put(x, year);
         String of = " of " + year + " in " + text;
-        Check.due("text(1)" + of, x.text(1, x.count(1) == 0 ? NONE : 0), 0);
+        StolenHours x = living(text, year);
         Model.Town whole = new Model.Town(street);
         int end = whole.live(read, read.lines.size());
         Check.due("till" + of, x.till(0, 0), end);
         for (int what = -1; what < 6; what++) {
             Check.due("after " + what + of, x.after(0, 0, what), whole.after(what));
         }
+        Check.due("state behind END" + of, x.state(0, 0, end + 1, 0), -2);
         int[] places = {end, end / 2, below(end + 1)};
         for (int n : places) {
+            x = living(text, year);
             Model.Town town = new Model.Town(street);
             town.live(read, n);
             for (int what = -2; what < 345; what++) {
                 Check.due("state " + n + " " + what + of, x.state(0, 0, n, what), town.state(what));
             }
         }
-        Check.due("state behind END" + of, x.state(0, 0, end + 1, 0), -2);
     }
 
-    private static void compareDrawn(StolenHours x, Model.Read street, String text) {
+    private static void compareDrawn(Model.Read street, String text) {
+        StolenHours x = Check.withStreet(text);
         int seed = RANDOM.nextInt();
         int n = below(61);
         Model.Town town = new Model.Town(street);

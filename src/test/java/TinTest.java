@@ -1,7 +1,6 @@
 /** Promises 16, 17 and 30: tins and waiting. */
 public final class TinTest {
     private static final int NONE = StolenHours.NONE;
-    private static final StolenHours X = new StolenHours();
 
     private TinTest() {
     }
@@ -15,9 +14,10 @@ public final class TinTest {
     }
 
     private static void isTin(int n, int k, int p, long over, long under) {
+        StolenHours x = new StolenHours();
         String name = "tin " + n + " " + k + " " + p;
-        Check.due(name, X.tin(n, k, p, false), over);
-        Check.due(name + " under", X.tin(n, k, p, true), under);
+        Check.due(name, x.tin(n, k, p, false), over);
+        Check.due(name + " under", x.tin(n, k, p, true), under);
     }
 
     private static void tins() {
@@ -62,9 +62,10 @@ public final class TinTest {
     }
 
     private static void isWait(int n, long over, long under, int price) {
-        Check.due("waits " + n, X.waits(n, 0), over);
-        Check.due("waits under " + n, X.waits(n, 1), under);
-        Check.due("waits price " + n, X.waits(n, 2), price);
+        StolenHours x = new StolenHours();
+        Check.due("waits " + n, x.waits(n, 0), over);
+        Check.due("waits under " + n, x.waits(n, 1), under);
+        Check.due("waits price " + n, x.waits(n, 2), price);
     }
 
     private static void waits() {
@@ -78,31 +79,34 @@ public final class TinTest {
         isWait(7, 48087, 6250, 8);
         isWait(8, 245473, 31250, 8);
         isWait(9, 1247517, 156250, 8);
+        StolenHours x = new StolenHours();
         for (int what = 0; what < 3; what++) {
-            Check.due("waits 0", X.waits(0, what), NONE);
-            Check.due("waits 10", X.waits(10, what), NONE);
-            Check.due("waits -1", X.waits(-1, what), NONE);
+            Check.due("waits 0", x.waits(0, what), NONE);
+            Check.due("waits 10", x.waits(10, what), NONE);
+            Check.due("waits -1", x.waits(-1, what), NONE);
         }
-        Check.due("waits what -1", X.waits(1, -1), NONE);
-        Check.due("waits what 3", X.waits(1, 3), NONE);
+        Check.due("waits what -1", x.waits(1, -1), NONE);
+        Check.due("waits what 3", x.waits(1, 3), NONE);
     }
 
     private static void enough() {
         int[][] want = {{1, 0, 1}, {1, 1, 1}, {1, 2, 2}, {1, 5, 4}, {1, 7, 7}, {1, 8, NONE}, {1, 10, NONE}, {2, 1, 3},
             {2, 0, 2}, {9, 0, 9}, {9, 1, NONE}, {0, 0, NONE}, {10, 0, NONE}, {-1, 0, NONE}, {1, -1, NONE}, {1, 11, NONE}};
+        StolenHours x = new StolenHours();
         for (int[] numbers : want) {
-            Check.due("enough " + numbers[0] + " " + numbers[1], X.enough(numbers[0], numbers[1]), numbers[2]);
+            Check.due("enough " + numbers[0] + " " + numbers[1], x.enough(numbers[0], numbers[1]), numbers[2]);
         }
         for (int k = 1; k <= 9; k++) {
-            Check.due("enough " + k + " -1", X.enough(k, -1), NONE);
-            Check.due("enough " + k + " 11", X.enough(k, 11), NONE);
-            Check.due("enough " + k + " most", X.enough(k, Integer.MAX_VALUE), NONE);
+            x = new StolenHours();
+            Check.due("enough " + k + " -1", x.enough(k, -1), NONE);
+            Check.due("enough " + k + " 11", x.enough(k, 11), NONE);
+            Check.due("enough " + k + " most", x.enough(k, Integer.MAX_VALUE), NONE);
             for (int p = 0; p <= 10; p++) {
                 int least = NONE;
                 for (int n = 9; n >= 0; n--) {
-                    least = X.tin(n, k, p, false) * 10 >= X.tin(n, k, p, true) * 9 ? n : least;
+                    least = x.tin(n, k, p, false) * 10 >= x.tin(n, k, p, true) * 9 ? n : least;
                 }
-                Check.due("enough " + k + " " + p, X.enough(k, p), least);
+                Check.due("enough " + k + " " + p, x.enough(k, p), least);
             }
         }
     }
