@@ -1,6 +1,6 @@
 import java.util.Random;
 
-/** Any arguments in any state: no call throws, and what only asks changes nothing that is told. */
+/** Any arguments in any state: no call throws, and what only asks changes nothing that is told, nor any later answer. */
 public final class FuzzTest {
     private static final Random RANDOM = new Random(7L);
     private static final int[] ODD = {Integer.MIN_VALUE, Integer.MAX_VALUE, -1000, -3, -2, -1, 40, 41, 63, 64, 65, 99,
@@ -28,6 +28,9 @@ public final class FuzzTest {
                 }
             }
             asksChangeNothing();
+        }
+        for (int round = 0; round < 40; round++) {
+            asksChangeNoAnswer();
         }
         Check.finish("FuzzTest");
     }
@@ -113,5 +116,32 @@ public final class FuzzTest {
         }
         Check.due("all told", Check.told(x), before);
         Check.hasTape("behind questions", x, 10);
+    }
+
+    /** One that was asked much before answers as one that was asked nothing. */
+    private static void asksChangeNoAnswer() {
+        StolenHours asked = withTwoOfEach();
+        for (int i = 0; i < 300; i++) {
+            long seed = RANDOM.nextLong();
+            int call = RANDOM.nextInt(28);
+            // the same seed draws the same arguments for both
+            RANDOM.setSeed(seed);
+            long got = ask(asked, call);
+            if (i % 3 == 0) {
+                RANDOM.setSeed(seed);
+                Check.due("call " + call + " behind " + i + " others, by " + seed, got, ask(withTwoOfEach(), call));
+            }
+            RANDOM.setSeed(seed + 1);
+        }
+    }
+
+    private static StolenHours withTwoOfEach() {
+        StolenHours x = new StolenHours();
+        String[] texts = {TEXTS[0], TEXTS[1], TEXTS[4], "steal 3 4;think 3 4;do 3 0 9;sell 3 0;", "gone 5;there 2;",
+            "gone 9;gone 12;there 20;", "hands 4;worth 0 1 9;worth 1 0 4;worth 2 0 8;worth 3 2 3;", TEXTS[8]};
+        for (int i = 0; i < texts.length; i++) {
+            Check.due("text " + i, Check.tell(x, i / 2, StolenHours.NONE, texts[i]), i % 2);
+        }
+        return x;
     }
 }

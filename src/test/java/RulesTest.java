@@ -106,6 +106,10 @@ public final class RulesTest {
         }
         methodsAreShort(text);
         nothingIsMadeInCalls(text);
+        onlyPickCallsItself(text);
+        libraryCalls(text);
+        Check.due("no package", Pattern.compile("(?m)^package ").matcher(text).find(), false);
+        Check.due("one public class", text.split("public (final )?class ", -1).length - 1, 1);
     }
 
     private static void methodsAreShort(String text) {
@@ -133,6 +137,25 @@ public final class RulesTest {
                 boolean constructor = method.matches(" +(public )?(StolenHours|Told|Lines)\\(.*");
                 Check.due("made once: " + line, field || constructor, true);
             }
+        }
+    }
+
+    private static void onlyPickCallsItself(String text) {
+        String name = "";
+        for (String line : text.split("\n")) {
+            if (line.matches(METHOD)) {
+                name = line.replaceAll("\\(.*", "").replaceAll(".* ", "");
+            } else if (!name.isEmpty() && Pattern.compile("(?<![.\\w])" + name + "\\(").matcher(line).find()) {
+                Check.due("calls itself: " + name, name.equals("pick"), true);
+            }
+        }
+    }
+
+    private static void libraryCalls(String text) {
+        Set<String> allowed = Set.of("Math.max", "Math.min", "Integer.bitCount", "Long.bitCount", "Arrays.fill", "System.arraycopy");
+        Matcher call = Pattern.compile("\\b(Math|Integer|Long|Short|Byte|Character|Boolean|Arrays|System)\\.\\w+").matcher(text);
+        while (call.find()) {
+            Check.due("the library's " + call.group(), allowed.contains(call.group()), true);
         }
     }
 }

@@ -50,6 +50,7 @@ public final class StreetBoundsTest {
         earlyByHisOwnAlone();
         rankedNotSoMany();
         rankedOfSeveral();
+        oneMinuteForAll();
         Check.finish("StreetBoundsTest");
     }
 
@@ -579,6 +580,10 @@ public final class StreetBoundsTest {
         isGift("price 0 11 3;has 0 1 1;business 2 0 11 1;", 1, 0, 0);
         isGift("minutes 40;price 0 39 9;price 39 39 8;business 9 31 39 1;", 1, 31, 71);
         isGift("minutes 40;price 0 39 8;price 39 39 9;business 9 31 39 1;", 1, 39, 64);
+        // each business by its own runs
+        isGift("minutes 20;price 0 19 3;business 1 0 0 1;business 1 0 0 1;business 2 4 5 1;", 4, 4, 3);
+        isGift("minutes 20;price 0 19 3;price 5 5 4;business 1 0 0 1;business 1 9 9 1;business 2 4 5 1;", 7, 5, 9);
+        isGift("minutes 40;price 0 39 9;price 39 39 1;" + Check.times("business 1 0 39 1;", 5) + "business 9 31 39 1;", 63, 0, 109);
     }
 
     // Promise 25: "by how much his PLAN is less, if it can't be used"; "NONE: there is none such (of any)".
@@ -700,5 +705,29 @@ public final class StreetBoundsTest {
         for (int k = 0; k < 6; k++) {
             Check.due("ranked of several, " + k, x.ranked(0, 0, k), want[k]);
         }
+    }
+
+    // "MINUTES, 1 .. 40", "PEOPLE, 1 .. 4", "at most 6": one minute, and more people and business than that.
+    private static void oneMinuteForAll() {
+        StolenHours x = Check.withStreet("minutes 1;people 4;coins 3 9;price 0 0 4;has 3 0 0;"
+            + Check.times("business 1 0 0 2;", 5) + "business 1 0 0 9;");
+        for (int p = 0; p < 4; p++) {
+            int cost = p == 3 ? 0 : 4;
+            for (int b = 0; b < 6; b++) {
+                String of = " of " + p + ", " + b;
+                Check.due("run" + of, x.run(0, p, b, false), 0);
+                Check.due("run cost" + of, x.run(0, p, b, true), cost);
+                Check.due("errands" + of, x.errands(0, p, 1 << b, NONE), cost);
+                Check.due("gift" + of, x.gift(0, p, 1 << b, false), p == 3 ? NONE : 0);
+                Check.due("gift cost" + of, x.gift(0, p, 1 << b, true), p == 3 ? NONE : 0);
+                Check.due("early" + of, x.early(0, p, 1 << b), p == 3 ? 0 : NONE);
+            }
+            Check.due("plan of " + p, x.plan(0, p, false), 32);
+            Check.due("left of " + p, x.left(0, p), p == 3 ? 18 : 25);
+            Check.due("missed of " + p, x.missed(0, p, 0), p == 3 ? 9 : 5);
+            Check.due("corner of " + p, x.corner(0, p, NONE), p == 3 ? 0 : 1);
+            Check.due("robbed of " + p, x.robbed(0, p, NONE), p == 3 ? 1 : 0);
+        }
+        Check.due("wanted, many", x.wanted(0, true), 6);
     }
 }

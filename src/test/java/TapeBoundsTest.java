@@ -21,6 +21,7 @@ public final class TapeBoundsTest {
         theFirstBytesAlone();
         theTapeIsTaken();
         aFurtherOneOrInThePlaceOfOne();
+        aTextLeavesTheOthers();
         noneSuch();
         asManyAsMayBe();
         noSuchSort();
@@ -248,6 +249,65 @@ public final class TapeBoundsTest {
     private static void isTold(StolenHours x, int sort, int one, int want) {
         int[] got = {x.street(one, 0), x.deed(one, NONE, 0), x.fact(one, NONE, 0), x.swap(one, 0)};
         Check.due("what " + one + " of " + sort + " tells", got[sort], want);
+    }
+
+    // Promise 4: "in the place of one": all others, of its sort and of the other sorts, stay as they are told.
+    private static void aTextLeavesTheOthers() {
+        for (int sort = 0; sort < 4; sort++) {
+            for (int place = 0; place < 2; place++) {
+                for (String text : new String[] {"", OTHERS[sort]}) {
+                    StolenHours x = withTwoOfEach();
+                    Check.due("in the place of " + place + " of " + sort, Check.tell(x, sort, place, text), place);
+                    for (int other = 0; other < 4; other++) {
+                        Check.due("count of " + other, x.count(other), 2);
+                        for (int one = 0; one < 2; one++) {
+                            if (other != sort || one != place) {
+                                staysTold(x, other, one);
+                            }
+                        }
+                    }
+                }
+            }
+        }
+        // a further one, too, of each sort in any order
+        for (int first = 0; first < 4; first++) {
+            StolenHours x = new StolenHours();
+            for (int i = 0; i < 8; i++) {
+                int sort = (first + 3 * i) % 4;
+                Check.due("a further one of " + sort, Check.tell(x, sort, NONE, textOf(sort, i / 4)), i / 4);
+            }
+            for (int sort = 0; sort < 4; sort++) {
+                staysTold(x, sort, 0);
+                staysTold(x, sort, 1);
+            }
+        }
+    }
+
+    private static StolenHours withTwoOfEach() {
+        StolenHours x = new StolenHours();
+        for (int sort = 0; sort < 4; sort++) {
+            Check.tell(x, sort, NONE, textOf(sort, 0));
+            Check.tell(x, sort, NONE, textOf(sort, 1));
+        }
+        return x;
+    }
+
+    private static String textOf(int sort, int one) {
+        String[][] texts = {{"minutes 5;price 4 4 6;", "minutes 7;has 1 6 6;"}, {"think 1 2;dearer 3;", "sell 0 4;"},
+            {"gone 8;", "there 9;gone 1;there 2;"}, {"hands 5;worth 4 0 3;", "hands 2;worth 1 1 7;"}};
+        return texts[sort][one];
+    }
+
+    private static void staysTold(StolenHours x, int sort, int one) {
+        int[][] got = {{x.street(one, 0), x.street(one, 104), x.street(one, 206)},
+            {x.deed(one, NONE, 0), x.deed(one, 0, 0), x.deed(one, 0, 2)},
+            {x.fact(one, NONE, 0), x.fact(one, 0, 0), x.fact(one, 0, 1)},
+            {x.swap(one, 0), x.swap(one, 124), x.swap(one, 107)}};
+        int[][][] want = {{{5, 6, -2}, {7, 1, 1}}, {{2, 1, 2}, {1, 3, 4}}, {{1, 1, 8}, {3, 0, 9}},
+            {{5, 3, 0}, {2, -1000, 7}}};
+        for (int i = 0; i < 3; i++) {
+            Check.due("what " + one + " of " + sort + " still tells, " + i, got[sort][i], want[sort][one][i]);
+        }
     }
 
     private static StolenHours withAFault() {

@@ -30,6 +30,7 @@ public final class YearBoundsTest {
         dearerUpToNine();
         cheaperDownToZero();
         noSuchPersonMinuteBusiness();
+        oneMinuteForAll();
         endIsTheFirstThatCantBe();
         endOfAll();
         stateUpToEnd();
@@ -277,6 +278,15 @@ public final class YearBoundsTest {
                 ends("has 0 0 0;" + Check.times("business 1 0 0 1;", many), "do 0 " + b + " 0;", b < many ? 1 : 0);
             }
         }
+    }
+
+    // One minute, and more people and business than that: each can be where he, it and the minute are there.
+    private static void oneMinuteForAll() {
+        String street = "minutes 1;people 4;has 3 0 0;" + Check.times("business 1 0 0 2;", 6);
+        ends(street, "sell 3 0;buy 2 0;steal 3 0;do 3 5 0;", 4, 0, 1, 13, 23, 12, 19, 35, 3, 200, 3);
+        ends(street, "think 3 0;", 1, 0, 1, 300, 1);
+        ends(street, "do 3 4 0;", 1, 34, 3, 13, 22);
+        ends(street, "buy 0 0;sell 0 0;", 2, 10, 20, 13, 21, 200, NONE);
     }
 
     // "END: the first DEED that can't be": what comes behind it is not lived, though it could be.
