@@ -25,6 +25,7 @@ public final class StreetBoundsTest {
         errandsWithoutRoom();
         errandsOfAnotherBusiness();
         errandsFirstRow();
+        errandsOfEachFromEachMinute();
         planByCoins();
         planOfNothing();
         planOfSeveral();
@@ -302,6 +303,32 @@ public final class StreetBoundsTest {
         StolenHours z = Check.withStreet("minutes 5;business 1 3 4 1;business 1 0 4 1;");
         Check.due("later row, 0", z.errands(0, 0, 3, 0), 3);
         Check.due("later row, 1", z.errands(0, 0, 3, 1), 0);
+    }
+
+    // "of each the first MINUTE": of all six, wherever each of them is done.
+    private static void errandsOfEachFromEachMinute() {
+        for (int m = 0; m < 40; m++) {
+            StringBuilder street = new StringBuilder("minutes 40;coins 0 99;has 1 0 39;price 0 39 2;price " + m + " " + m + " 9;");
+            int last = 0;
+            for (int b = 0; b < 6; b++) {
+                int at = (m + 7 * b) % 40;
+                last = Math.max(last, at);
+                street.append("business 1 ").append(at).append(" ").append(at).append(" 20;");
+            }
+            StolenHours x = Check.withStreet(street.toString());
+            for (int b = 0; b < 6; b++) {
+                int at = (m + 7 * b) % 40;
+                Check.due("first of " + b + " of all in " + street, x.errands(0, 0, 63, b), at);
+                Check.due("first of " + b + " alone in " + street, x.errands(0, 0, 1 << b, b), at);
+                Check.due("early of " + b + " in " + street, x.early(0, 1, 1 << b), at);
+            }
+            Check.due("errands of all in " + street, x.errands(0, 0, 63, NONE), 19);
+            Check.due("plan in " + street, x.plan(0, 0, false), 63);
+            Check.due("plan, much, in " + street, x.plan(0, 0, true), 101);
+            Check.due("gift of all in " + street, x.gift(0, 0, 63, false), m);
+            Check.due("gift cost of all in " + street, x.gift(0, 0, 63, true), 10);
+            Check.due("early of all in " + street, x.early(0, 1, 63), last);
+        }
     }
 
     private static void isPlan(String street, int bits, int much) {
